@@ -41,11 +41,7 @@ public final class TileRules {
     }
 
     public int untile() {
-        if (tileSet.size == 0) {
-            return NONE;
-        }
-        tileSet.size--;
-        return tileSet.size;
+        return tileSet.size == 0 ? NONE : tileSet.dropLast();
     }
 
     public long fillings(int w, int h, boolean ring) {
@@ -323,6 +319,11 @@ public final class TileRules {
             size++;
             return size - 1;
         }
+
+        int dropLast() {
+            size--;
+            return size;
+        }
     }
 
     /**
@@ -400,18 +401,23 @@ public final class TileRules {
                 return;
             }
             for (int t = 0; t < tiles.size; t++) {
-                int after = before << TILE_BITS | t;
-                int digit = digitOf[tiles.north[t]];
-                if (fitsInRow(placed, before, after, t) && !(closed && digit == NONE)) {
-                    boolean underNone = northBefore == NONE || digit == NONE;
-                    int north = underNone ? NONE : northBefore * digits + digit;
-                    int south = southBefore * digits + digitOf[tiles.south[t]];
-                    addRows(placed + 1, after, north, south);
-                }
+                addRowsWith(t, placed, before, northBefore, southBefore);
             }
         }
 
-        private boolean fitsInRow(int placed, int before, int after, int t) {
+        private void addRowsWith(int t, int placed, int before, int northBefore, int southBefore) {
+            int after = before << TILE_BITS | t;
+            int digit = digitOf[tiles.north[t]];
+            // In a ring something lies above every row; elsewhere nothing does above the first.
+            boolean underNothing = northBefore == NONE || digit == NONE;
+            if (fitsInRow(t, placed, before, after) && !(closed && underNothing)) {
+                int north = underNothing ? NONE : northBefore * digits + digit;
+                int south = southBefore * digits + digitOf[tiles.south[t]];
+                addRows(placed + 1, after, north, south);
+            }
+        }
+
+        private boolean fitsInRow(int t, int placed, int before, int after) {
             if (placed > 0 && tiles.east[before & TILE_MASK] != tiles.west[t]) {
                 return false;
             }
@@ -1294,17 +1300,22 @@ public final class TileRules {
             if (length >= MOST_TURN) {
                 return false;
             }
-            int least = length < period ? 1 : row[length - period];
-            for (int next = least; next <= left; next++) {
-                if (has(next)) {
-                    row[length] = next;
-                    boolean goesOn = length >= period && next == least;
-                    if (extend(length + 1, goesOn ? period : length + 1, left - next)) {
-                        return true;
-                    }
+            for (int next = leastNext(length, period); next <= left; next++) {
+                if (has(next) && extendBy(next, length, period, left)) {
+                    return true;
                 }
             }
             return false;
+        }
+
+        private boolean extendBy(int next, int length, int period, int left) {
+            boolean goesOn = length >= period && next == row[length - period];
+            row[length] = next;
+            return extend(length + 1, goesOn ? period : length + 1, left - next);
+        }
+
+        private int leastNext(int length, int period) {
+            return length < period ? 1 : row[length - period];
         }
 
         private boolean isWanted(int length, int period) {
