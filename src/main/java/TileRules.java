@@ -1026,7 +1026,9 @@ public final class TileRules {
             int here = l;
             int restX = x;
             int restY = y;
-            for (int size = power(side, k) / side; size > 0; size /= side) {
+            int size = power(side, k);
+            for (int step = 0; step < k && side > 1 && size >= side; step++) {
+                size /= side;
                 here = at(here, restX / size, restY / size);
                 restX %= size;
                 restY %= size;
