@@ -352,6 +352,10 @@ public final class BoundaryTest {
         due("tile(4, 4, 4, 4)", alike.tile(4, 4, 4, 4), 1);
         due("fillings(1, 1, true)", alike.fillings(1, 1, true), 2);
         due("fillings(2, 2, true)", alike.fillings(2, 2, true), 16);
+        untile();
+    }
+
+    private static void untile() {
         sentence(3, "NONE: there is none");
         refused("bare: untile()", y -> 0, TileRules::untile, NONE);
         refused("one came and went: untile()", y -> y.tile(1, 1, 1, 1) + y.untile(), TileRules::untile, NONE);
@@ -544,6 +548,15 @@ public final class BoundaryTest {
         for (int i = 0; i < 4; i++) {
             due("laid(2, 2, false, " + i % 2 + ", " + i / 2 + ")", x.laid(2, 2, false, i % 2, i / 2), want[i]);
         }
+        sentence(5, "the first FILLING, where the first rows lead to none");
+        TileRules late = new TileRules();
+        late.tile(1, 5, 2, 5);
+        late.tile(3, 5, 3, 5);
+        for (int i = 0; i < 4; i++) {
+            due("laid(2, 1, false, ..)", late.laid(2, 1, false, i % 2, 0), 0);
+            due("laid(2, 2, false, ..)", late.laid(2, 2, false, i % 2, i / 2), 1);
+            due("laid(2, 2, true, ..)", late.laid(2, 2, true, i % 2, i / 2), 1);
+        }
         laidInRings();
     }
 
@@ -563,6 +576,14 @@ public final class BoundaryTest {
             due("laid(4, 4, true, " + i + ", 3)", x.laid(4, 4, true, i, 3), 1 + i % 2);
         }
         due("laid(4, 4, false, 0, 3)", x.laid(4, 4, false, 0, 3), 0);
+        // 2 alone lies in rings; 0 has its colour in the north, and 1 lies below 0 alone
+        TileRules y = new TileRules();
+        y.tile(0, 5, 1, 5);
+        y.tile(1, 5, 2, 5);
+        y.tile(0, 5, 0, 5);
+        for (int h = 1; h <= 4; h++) {
+            due("laid(1, " + h + ", true, 0, " + (h - 1) + ")", y.laid(1, h, true, 0, h - 1), 2);
+        }
     }
 
     // ---- promises 6, 7 and 8
@@ -711,6 +732,12 @@ public final class BoundaryTest {
         for (int cells : five) {
             due("piece(" + cells + ")", new TileRules().piece(cells), 0);
         }
+        piecesThatHangTogether();
+        fullOfPieces();
+        unpiece();
+    }
+
+    private static void piecesThatHangTogether() {
         sentence(9, "or they do not hang together (by sides)");
         for (int y = 0; y < 4; y++) {
             int overTheEdge = 3 << 5 * y + 4;
@@ -721,10 +748,15 @@ public final class BoundaryTest {
             due("piece(" + (33 << 5 * y + y) + ")", new TileRules().piece(33 << 5 * y + y), 0);
         }
         int[] apart = {5, 1 | 1 << 10, 1 | 1 << 4, 1 | 1 << 20, 1 | 1 << 24, 3 | 3 << 3, 27, 1 | 2 << 5 | 4 << 10,
-            17 | 31 << 10 & 7 << 11, 3 | 3 << 10, 1 << 9 | 1 << 20, 15 << 1 | 1 << 5, 1 << 20 | 15 << 16};
+            17 | 31 << 10 & 7 << 11, 3 | 3 << 10, 1 << 9 | 1 << 20, 15 << 1 | 1 << 5, 1 << 20 | 15 << 16,
+            5 | 3 << 5, 3 | 4 << 5, 6 | 1 << 5, 3 << 2 | 3 << 5};
         for (int cells : apart) {
             refusedAnywhere("piece(" + cells + ")", x -> x.piece(cells), BAD);
         }
+        overTheEdgeFromWithin();
+    }
+
+    private static void fullOfPieces() {
         sentence(9, "PIECES 0 .. 5, FULL");
         TileRules x = new TileRules();
         for (int p = 0; p < 6; p++) {
@@ -736,7 +768,20 @@ public final class BoundaryTest {
         due("unpiece()", x.unpiece(), 5);
         due("piece(1)", x.piece(1), 5);
         due("piece(1)", x.piece(1), FULL);
-        unpiece();
+    }
+
+    /** Two cells that hang together, and a third that would over the east or the west side alone. */
+    private static void overTheEdgeFromWithin() {
+        for (int y = 0; y < 4; y++) {
+            int east = 7 << 5 * y + 3;
+            int west = 49 << 5 * y;
+            refusedAnywhere("piece(" + east + ")", x -> x.piece(east), BAD);
+            refusedAnywhere("piece(" + west + ")", x -> x.piece(west), BAD);
+        }
+        // from the first cell the last one is reached to the north, to the west, and both
+        for (int cells : new int[] {1 | 4 | 7 << 5, 2 | 3 << 5, 4 | 7 << 5 | 1, 8 | 15 << 5, 4 | 4 << 5 | 7 << 10}) {
+            due("piece(" + cells + ")", new TileRules().piece(cells), 0);
+        }
     }
 
     private static void unpiece() {
@@ -761,6 +806,13 @@ public final class BoundaryTest {
         }
         due("unpiece()", x.unpiece(), NONE);
         due("covers(1)", x.covers(1), 0);
+        x.piece(1);
+        x.piece(1);
+        due("cover(1, 0, 0, 0)", x.cover(1, 0, 0, 0), 0);
+        x.unpiece();
+        due("one went: cover(1, 0, 0, 0)", x.cover(1, 0, 0, 0), 0);
+        x.unpiece();
+        due("both went: cover(1, 0, 0, 0)", x.cover(1, 0, 0, 0), NONE);
         due("piece(7)", x.piece(7), 0);
         due("placements(0)", x.placements(0), 22);
     }
@@ -787,6 +839,11 @@ public final class BoundaryTest {
                 due("cover(0, 0, h, 0)", x.cover(0, 0, h, 0), BAD);
             }
         }
+        holesThatAreNoCells();
+        holes();
+    }
+
+    private static void holesThatAreNoCells() {
         sentence(11, "BAD: also HOLES that are no cells");
         for (int i = 0; i < 20; i++) {
             int w = 1 + i % 5;
@@ -799,6 +856,9 @@ public final class BoundaryTest {
             refused("some: board(" + w + ", " + h + ", " + LEAST + ")", BoundaryTest::some,
                     y -> y.board(w, h, LEAST), BAD);
         }
+    }
+
+    private static void holes() {
         sentence(11, "how many cells are no HOLES; HOLES (bit w y + x)");
         TileRules all = new TileRules();
         all.piece(1);
@@ -862,6 +922,13 @@ public final class BoundaryTest {
         badNumbers("bare: placements", x -> 0, asked, new int[1], new int[][] {{-1, 0, 1, 5, 6, LEAST, MOST}});
         badNumbers("some: placements", BoundaryTest::some, asked, new int[1], new int[][] {{-1, 3, 5, 6, LEAST, MOST}});
         badNumbers("full: placements", BoundaryTest::full, asked, new int[1], new int[][] {{-1, 6, 7, LEAST, MOST}});
+        placementsWithinTheSides();
+        placementsFromAnywhere();
+        placementsWithoutHoles();
+        placementsOnce();
+    }
+
+    private static void placementsWithinTheSides() {
         sentence(13, "cells of THE BOARD: none beyond its sides");
         int[] straight = {1, 3, 7, 15, 31};
         for (int i = 0; i < 20; i++) {
@@ -884,6 +951,9 @@ public final class BoundaryTest {
                         Math.max(0, w - size + 1) * h);
             }
         }
+    }
+
+    private static void placementsFromAnywhere() {
         sentence(13, "its cells moved along both ways, from wherever they were told");
         for (int shift : new int[] {0, 1, 3, 5, 8, 15, 18}) {
             TileRules x = new TileRules();
@@ -897,6 +967,17 @@ public final class BoundaryTest {
             due("piece(" + (35 << shift) + "): board, covers(0)", x.board(2, 2, 8), 3);
             due("piece(" + (35 << shift) + "): cover(0, 1, 0, 1)", x.cover(0, 1, 0, 1), 7);
         }
+        for (int bit = 0; bit < 25; bit++) {
+            TileRules x = new TileRules();
+            x.may(0, false);
+            x.may(1, false);
+            x.piece(1 << bit);
+            x.board(5, 4, 0);
+            due("piece(" + (1 << bit) + "): placements(0)", x.placements(0), 20);
+        }
+    }
+
+    private static void placementsWithoutHoles() {
         sentence(13, "none of them a HOLE");
         TileRules x = new TileRules();
         x.piece(3);
@@ -908,6 +989,14 @@ public final class BoundaryTest {
         due("placements(0)", x.placements(0), 0);
         x.board(5, 4, 1048575);
         due("placements(0)", x.placements(0), 0);
+    }
+
+    private static void placementsOnce() {
+        sentence(13, "turned by quarters and mirrored: eight ways");
+        TileRules eight = new TileRules();
+        eight.piece(7 | 1 << 5);
+        eight.board(5, 4, 0);
+        due("placements(0)", eight.placements(0), 4 * 3 * 3 + 4 * 4 * 2);
         sentence(13, "what has the same cells is one");
         int[] cells = {1, 3, 102, 35, 7 | 1 << 6, 2 | 7 << 5 | 2 << 10, 3 | 3 << 5, 7 | 1 << 5};
         int[] want = {9, 12, 8, 16, 8, 1, 4, 16};
@@ -1058,6 +1147,7 @@ public final class BoundaryTest {
             due("beside a HOLE: cover(" + mode + ", 2, 0, 1)", x.cover(mode, 2, 0, 1), 4);
         }
         leastCovers();
+        longCovers();
     }
 
     private static void leastCovers() {
@@ -1101,6 +1191,30 @@ public final class BoundaryTest {
         due("cover(1, 0, 3, 1)", z.cover(1, 0, 3, 1), 12);
         z.board(5, 4, 0);
         due("the last cell: cover(1, 4, 3, 1)", z.cover(1, 4, 3, 1), 1 << 19 | 1 << 14);
+    }
+
+    private static void longCovers() {
+        sentence(15, "and so on, to the last cell");
+        TileRules x = new TileRules();
+        x.piece(1);
+        x.board(5, 4, 0);
+        for (int cell = 0; cell < 20; cell++) {
+            due("cover(1, " + cell % 5 + ", " + cell / 5 + ", 1)", x.cover(1, cell % 5, cell / 5, 1), 1 << cell);
+        }
+        sentence(15, "turned by quarters and mirrored: eight ways");
+        // all cells but those of one way to lay an L of four at one corner are HOLES
+        TileRules y = new TileRules();
+        y.piece(7 | 1 << 5);
+        int[] ways = {0b001_111, 0b100_111, 0b111_100, 0b111_001, 0b10_10_11, 0b01_01_11, 0b11_10_10, 0b11_01_01};
+        for (int i = 0; i < ways.length; i++) {
+            int w = i < 4 ? 3 : 2;
+            y.board(w, 5 - w, 63 & ~ways[i]);
+            due("way " + i + ": covers(0)", y.covers(0), 1);
+            for (int cell = 0; cell < 6; cell++) {
+                due("way " + i + ": cover(0, ..)", y.cover(0, cell % w, cell / w, 1),
+                        (ways[i] >> cell & 1) != 0 ? ways[i] : NONE);
+            }
+        }
     }
 
     private static void fewest() {
@@ -1395,6 +1509,15 @@ public final class BoundaryTest {
         x.letters(2, 2);
         x.block(1, 1, 0, 1);
         due("1 holds both, 0 holds itself: mixes()", x.mixes(), NONE);
+        sentence(22, "each LETTER is, at whatever place of a BLOCK");
+        for (int a = 2; a <= 3; a++) {
+            for (int i = 0; i < a * a; i++) {
+                x.letters(2, a);
+                x.block(0, i % a, i / a, 1);
+                due("a = " + a + ", place " + i + ": mixes()", x.mixes(), 2);
+                due("a = " + a + ", place " + i + ": many(1, 2, 1)", x.many(1, 2, 1), a * a);
+            }
+        }
         sentence(22, "each LETTER, however late");
         // a ring with one short cut of one step mixes latest of all
         for (int n = 2; n <= 6; n++) {
@@ -1440,36 +1563,87 @@ public final class BoundaryTest {
             x.block(0, i % 3, i / 3, nine[i]);
         }
         due("a = 3: squares(0, 1)", x.squares(0, 1), 4);
-        TileRules y = new TileRules();
-        y.letters(2, 2);
-        y.block(0, 0, 0, 1);
-        int[] want = countSquares(new int[][] {{1, 0, 0, 0}, {0, 0, 0, 0}});
-        for (int k = 0; k <= 5; k++) {
-            due("a = 2: squares(0, " + k + ")", y.squares(0, k), want[k]);
+        for (int a = 2; a <= 3; a++) {
+            for (int kind = 0; kind < 8; kind++) {
+                compareWithGrown(a, kind);
+            }
         }
     }
 
-    /** For k = 0 .. 5, by writing GROWN(0, k) out, with BLOCKS of 2 times 2. */
-    private static int[] countSquares(int[][] blocks) {
-        int[] counts = new int[6];
-        int[][] grown = {{0}};
-        for (int k = 0; k < 6; k++) {
-            Set<Integer> seen = new HashSet<>();
-            for (int y = 1; y < grown.length; y++) {
-                for (int x = 1; x < grown.length; x++) {
-                    seen.add(1000 * grown[y - 1][x - 1] + 100 * grown[y - 1][x] + 10 * grown[y][x - 1] + grown[y][x]);
-                }
+    /** Six LETTERS with BLOCKS of all kinds, GROWN written out: its squares, and pairs for the first time. */
+    private static void compareWithGrown(int a, int kind) {
+        int[][] blocks = new int[6][a * a];
+        TileRules x = new TileRules();
+        x.letters(6, a);
+        for (int l = 0; l < 6; l++) {
+            for (int i = 0; i < a * a; i++) {
+                int mixed = (l * l + 7 * i + l * i * (kind + 1) + i * i * kind) % 11;
+                blocks[l][i] = mixed < 6 ? mixed : kind < 4 ? l : (l + 1) % 6;
+                x.block(l, i % a, i / a, blocks[l][i]);
             }
-            counts[k] = seen.size();
-            int[][] next = new int[2 * grown.length][2 * grown.length];
-            for (int i = 0; i < next.length * next.length; i++) {
-                int x = i % next.length;
-                int y = i / next.length;
-                next[y][x] = blocks[grown[y / 2][x / 2]][y % 2 * 2 + x % 2];
-            }
-            grown = next;
         }
-        return counts;
+        String told = "a = " + a + ", kind " + kind + ": ";
+        for (int l = 0; l < 6; l++) {
+            int[][] grown = {{l}};
+            int[][] first = new int[2][36];
+            for (int k = 0; k <= 5; k++) {
+                due(told + "squares(" + l + ", " + k + ")", x.squares(l, k), countSquares(grown));
+                notePairs(grown, k, first);
+                grown = grow(grown, blocks, a);
+            }
+            if (l == kind % 6) {
+                comparePairs(told, x, l, first);
+            }
+        }
+    }
+
+    /** What is not in the first five comes later or in none. */
+    private static void comparePairs(String told, TileRules x, int l, int[][] first) {
+        for (int i = 0; i < 72; i++) {
+            int way = i / 36;
+            int west = i % 36 / 6;
+            int east = i % 6;
+            int got = x.beside(l, west, east, way);
+            int want = first[way][i % 36];
+            due(told + "beside(" + l + ", " + west + ", " + east + ", " + way + ")",
+                    want == 0 && (got == NONE || got > 5) ? 0 : got, want);
+        }
+    }
+
+    private static int countSquares(int[][] grown) {
+        Set<Integer> seen = new HashSet<>();
+        for (int y = 1; y < grown.length; y++) {
+            for (int x = 1; x < grown.length; x++) {
+                seen.add(1000 * grown[y - 1][x - 1] + 100 * grown[y - 1][x] + 10 * grown[y][x - 1] + grown[y][x]);
+            }
+        }
+        return seen.size();
+    }
+
+    private static void notePairs(int[][] grown, int k, int[][] first) {
+        int size = grown.length;
+        for (int i = 0; i < size * size; i++) {
+            int x = i % size;
+            int y = i / size;
+            int east = x + 1 < size ? 6 * grown[y][x] + grown[y][x + 1] : -1;
+            int south = y + 1 < size ? 6 * grown[y][x] + grown[y + 1][x] : -1;
+            if (east >= 0 && first[0][east] == 0) {
+                first[0][east] = k;
+            }
+            if (south >= 0 && first[1][south] == 0) {
+                first[1][south] = k;
+            }
+        }
+    }
+
+    private static int[][] grow(int[][] grown, int[][] blocks, int a) {
+        int[][] next = new int[a * grown.length][a * grown.length];
+        for (int i = 0; i < next.length * next.length; i++) {
+            int x = i % next.length;
+            int y = i / next.length;
+            next[y][x] = blocks[grown[y / a][x / a]][y % a * a + x % a];
+        }
+        return next;
     }
 
     // ---- promises 24 to 26
@@ -1519,6 +1693,10 @@ public final class BoundaryTest {
         due("uncorner()", x.uncorner(), 5);
         due("corner(7)", x.corner(7), 6);
         due("corner(6)", x.corner(6), FULL);
+        uncorner();
+    }
+
+    private static void uncorner() {
         sentence(26, "NONE");
         refused("bare: uncorner()", y -> 0, TileRules::uncorner, NONE);
         refused("one came and went: uncorner()", y -> y.corner(1) + y.uncorner(), TileRules::uncorner, NONE);
