@@ -8,7 +8,7 @@ import java.util.Map;
 import java.util.regex.Matcher;
 import java.util.regex.Pattern;
 
-/** README.md: the answers in its examples, and that it names every call and every test. */
+/** README.md: the answers in its examples, and that it has every call and every test. */
 public final class ReadmeTest {
     private static final Pattern EXAMPLE = Pattern.compile("rules\\.(\\w+)\\(([^)]*)\\);\\s+// (-?\\d+)");
     private static final String NEW_OBJECT = "TileRules rules = new TileRules();";
@@ -79,6 +79,7 @@ public final class ReadmeTest {
     private static void checkNames(String text, Map<String, Method> face) {
         for (String name : face.keySet()) {
             must(text.contains("`" + name + "("), "README.md names " + name);
+            must(text.contains("\nrules." + name + "("), "README.md has an example of " + name);
         }
         for (String constant : new String[] {"NONE", "BAD", "FULL", "THERE"}) {
             must(text.contains("`TileRules." + constant + "`"), "README.md names " + constant);
